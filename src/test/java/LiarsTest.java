@@ -11,6 +11,7 @@ public final class LiarsTest {
         bittenWhereItStood();
         noSet();
         tries();
+        triesEach();
         wrongLiars();
         due.end();
     }
@@ -112,6 +113,18 @@ public final class LiarsTest {
         x.seen(0b0100000000, false);
         due.is("promise 19: known, the least of all", x.tries(1, 0), 0);
         due.is("promise 19: known", x.tries(1, 1), 1);
+    }
+
+    /** Each saying in its turn is the least of two that halve what is left. */
+    private static void triesEach() {
+        for (int saying = 0; saying < 10; saying++) {
+            int last = saying == 9 ? 0 : 9;
+            MothAudit x = new MothAudit();
+            x.seen(1 << saying | 1 << last, true);
+            x.seen(1023 & ~(1 << saying | 1 << last), false);
+            due.is("promise 19: one of two", x.tries(1, 0), Math.min(saying, last));
+            due.is("promise 19: one is left", x.tries(1, 1), 1);
+        }
     }
 
     private static void wrongLiars() {

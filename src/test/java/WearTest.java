@@ -6,6 +6,7 @@ public final class WearTest {
     public static void main(String[] args) {
         blame();
         leastAsBits();
+        shapesThatOverlap();
         wrongBlame();
         cuts();
         wrongCuts();
@@ -61,6 +62,17 @@ public final class WearTest {
         x.robe(0, 1023, 0);
         due.is("promise 13: all ten", x.blame(0, 0), 10);
         due.is("promise 13: all ten", x.blame(0, 1), 1023);
+    }
+
+    private static void shapesThatOverlap() {
+        MothAudit x = new MothAudit();
+        x.robe(2, 0b111111, 0);
+        x.saying(3, 2, 0b001111, 0);
+        x.saying(6, 2, 0b111100, 0);
+        due.is("promise 13: cells of both", x.blame(2, 0), 2);
+        due.is("promise 13: cells of both", x.blame(2, 1), 8 | 64);
+        x.robe(2, 0b001100, 0);
+        due.is("promise 13: either", x.blame(2, 1), 8);
     }
 
     private static void wrongBlame() {
