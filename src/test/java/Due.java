@@ -1,6 +1,7 @@
 /** Counts answers that are not as due, and prints each. */
 final class Due {
     private final String test;
+    private String sentence = "";
     private int asked;
     private int wrong;
 
@@ -8,11 +9,16 @@ final class Due {
         this.test = test;
     }
 
+    /** The words of the document that the next answers are held to. */
+    void says(String words) {
+        sentence = "'" + words + "': ";
+    }
+
     void is(String call, long answer, long due) {
         asked++;
         if (answer != due) {
             wrong++;
-            System.out.println(test + ": " + call + " answered " + answer + ", due is " + due);
+            System.out.println(test + ": " + sentence + call + " answered " + answer + ", due is " + due);
         }
     }
 
@@ -26,6 +32,26 @@ final class Due {
         for (int i = 0; i < years.length(); i++) {
             x.say(years.charAt(i));
         }
+    }
+
+    /** Does years in fact; answers as done() did. */
+    static int live(MothAudit x, String years) {
+        write(x, years);
+        return x.done();
+    }
+
+    /** The first numbers below least and above most, and such as are within if they are cut to fewer bits. */
+    static int[] beyond(int least, int most) {
+        int[] wide = {32, 256, 65536, 1 << 20};
+        int[] numbers = new int[4 + wide.length];
+        numbers[0] = least - 1;
+        numbers[1] = most + 1;
+        numbers[2] = Integer.MIN_VALUE;
+        numbers[3] = Integer.MAX_VALUE;
+        for (int i = 0; i < wide.length; i++) {
+            numbers[4 + i] = least + wide[i] > most ? least + wide[i] : most + 1;
+        }
+        return numbers;
     }
 
     void end() {
