@@ -194,7 +194,10 @@ public final class EdgesOfDrawsTest {
             int kind = (int) (drawn / 6 % 8);
             char robe = (char) ('A' + drawn % 6);
             int before = whole(x);
-            String act = kind < 4 ? robe + "" + "<>+/".charAt(kind) : kind == 4 ? "" + drawn / 48 % 10 : kind == 7 ? "." : "*";
+            String act = kind == 4 ? "" + drawn / 48 % 10 : kind == 7 ? "." : "*";
+            if (kind < 4) {
+                act = robe + "" + "<>+/".charAt(kind);
+            }
             if (Due.live(x, act) == 1 && act.equals("*")) {
                 eaten += before - whole(x);
             }
@@ -321,7 +324,8 @@ public final class EdgesOfDrawsTest {
             x.saying(0, 2 + i, 65535, 9);
             for (int camphor = 0; camphor <= 9; camphor++) {
                 x.robe(2 + i, 0, camphor);
-                due.is("camphor " + camphor + ", year(" + seeds[i] + ", 3, 1)", x.year(seeds[i], 3, 1), Math.max(8 - camphor, 0));
+                int eaten = Math.max(8 - camphor, 0);
+                due.is("camphor " + camphor + ", year(" + seeds[i] + ", 3, 1)", x.year(seeds[i], 3, 1), eaten);
             }
         }
     }

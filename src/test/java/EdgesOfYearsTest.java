@@ -20,6 +20,7 @@ public final class EdgesOfYearsTest {
         emptyPad();
         doneActs();
         padIsEmptyThen();
+        allIsSoThen();
         notDone();
         camphorMore();
         leastHole();
@@ -273,6 +274,25 @@ public final class EdgesOfYearsTest {
         due.is("wipe()", x.wipe(), 0);
         due.is("say('?')", x.say('?'), 1);
         due.is("fault()", x.fault(), 0);
+    }
+
+    private static void allIsSoThen() {
+        due.says("DONE: all is so then");
+        for (String state : new String[] {"new", "living", "full"}) {
+            MothAudit x = States.made(state);
+            MothAudit y = States.made(state);
+            due.that("done, one that is " + state, x.done() >= 0);
+            for (int robe = 0; robe <= 5; robe++) {
+                due.is("holes of " + robe, x.told(10 + 10 * robe), y.behind(robe, 0));
+                due.is("camphor of " + robe, x.told(11 + 10 * robe), y.behind(robe, 1));
+                due.is("press, of " + robe, x.told(2) >> robe & 1, y.behind(robe, 2));
+            }
+            for (int saying = 0; saying <= 9; saying++) {
+                due.is("how false, saying " + saying, x.told(102 + 10 * saying), y.untrue(saying));
+            }
+            due.is("the year", x.told(1), y.eaten(3));
+            due.is("the pad", x.told(0), 0);
+        }
     }
 
     private static void notDone() {
